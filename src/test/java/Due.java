@@ -1,0 +1,61 @@
+import java.nio.charset.StandardCharsets;
+
+/** Counts answers, prints each that is not the one that is due, and tells texts. */
+final class Due {
+    static int passed = 0;
+    static int failed = 0;
+
+    static void due(String call, long got, long want) {
+        if (got == want) {
+            passed++;
+            return;
+        }
+        failed++;
+        System.out.println(call + " answered " + got + ", due is " + want);
+    }
+
+    /** Feeds a text and cuts off what fills the last eight bytes. */
+    static void feed(ChalkRoads x, String text) {
+        feedBytes(x, text.getBytes(StandardCharsets.ISO_8859_1));
+    }
+
+    static void feedBytes(ChalkRoads x, byte[] bytes) {
+        int before = x.count(3);
+        for (int i = 0; i < bytes.length; i += 8) {
+            long v = 0;
+            for (int k = i; k < i + 8; k++) {
+                v = v << 8 | (k < bytes.length ? bytes[k] & 255 : ' ');
+            }
+            x.feed(v);
+        }
+        x.end(before + bytes.length);
+    }
+
+    static ChalkRoads told(String text) {
+        ChalkRoads x = new ChalkRoads();
+        feed(x, text);
+        int answer = x.text();
+        if (answer < 0) {
+            failed++;
+            System.out.println("refused by " + x.fault() + " with " + answer + ": " + text);
+        }
+        return x;
+    }
+
+    /** What text() and fault() answer, on a new object. */
+    static void refused(String text, int place, int fault) {
+        ChalkRoads x = new ChalkRoads();
+        feed(x, text);
+        due("text() of \"" + text + "\"", x.text(), -10 - place);
+        due("fault() of \"" + text + "\"", x.fault(), fault);
+        due("tape behind \"" + text + "\"", x.count(3), 0);
+    }
+
+    static void taken(String text, int lines) {
+        ChalkRoads x = new ChalkRoads();
+        feed(x, text);
+        due("text() of \"" + text + "\"", x.text(), lines);
+        due("fault() of \"" + text + "\"", x.fault(), 0);
+        due("tape behind \"" + text + "\"", x.count(3), 0);
+    }
+}
