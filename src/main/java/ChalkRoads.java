@@ -647,7 +647,6 @@ public final class ChalkRoads {
             to[lines] = b;
             yards[lines] = length;
             strength[lines] = strong;
-            roofs &= ~(1 << lines);
             lines++;
             return lines - 1;
         }
@@ -786,9 +785,6 @@ public final class ChalkRoads {
             if (!nextToken() || kind == END) {
                 return false;
             }
-            if (kind != NAME) {
-                return fail(2, place);
-            }
             boolean taken;
             if (nameIs("points")) {
                 taken = readPoints();
@@ -865,7 +861,7 @@ public final class ChalkRoads {
             if (!nextToken()) {
                 return false;
             }
-            if (kind == NAME && nameIs("roof")) {
+            if (nameIs("roof")) {
                 told.roofs |= 1 << told.lines - 1;
                 if (!nextToken()) {
                     return false;
@@ -946,7 +942,6 @@ public final class ChalkRoads {
             int sign = tape.byteAt(place);
             if (sign < 0) {
                 kind = END;
-                behind = place;
             } else if (sign == ';') {
                 kind = SIGN;
             } else if (sign >= 'a' && sign <= 'z') {
@@ -963,6 +958,7 @@ public final class ChalkRoads {
             return true;
         }
 
+        /** Of a TOKEN that is no NAME never. */
         boolean nameIs(String name) {
             if (behind - place != name.length()) {
                 return false;

@@ -45,6 +45,9 @@ final class RunTest {
         x = Due.told("line 0 1 9 9; line 1 2 9 9; line 2 3 1 1; one 0 3 40;");
         Due.due("comes not", x.comes(0), -4);
         where(x, 0, 59, 101, 2);
+        x = Due.told("line 0 1 6 9; line 1 2 6 9; line 2 3 6 9; one 0 3 40;");
+        where(x, 0, 60, 102);
+        Due.due("comes in 61", x.comes(0), -4);
     }
 
     private static void waiting() {
@@ -160,9 +163,31 @@ final class RunTest {
         // already in QUARTER 1: one who has set out before is on it
         x = Due.told("line 0 1 1 1; line 1 2 9 1; one 0 2 0;");
         Due.due("worst(0) first", x.worst(0), 2);
+        lostAtTheEnd();
         Due.due("worst(2)", x.worst(2), -1);
         Due.due("worst(-1)", x.worst(-1), -1);
         Due.due("new worst(0)", new ChalkRoads().worst(0), -4);
+    }
+
+    /** Behind 60 counts who is lost in 60, not who would be in 61, in both RUNS. */
+    private static void lostAtTheEnd() {
+        ChalkRoads x = Due.told("points 4; line 0 1 9 9 roof; line 3 1 9 9 roof; line 1 2 9 2;"
+            + " one 0 2 40; one 3 2 40;");
+        Due.due("told lost(60)", x.lost(60), 0);
+        Due.due("worst(0) in 60", x.worst(0), 1);
+        Due.due("worst(1) in 60", x.worst(1), 1);
+        x.cloud(40, true);
+        Due.due("told lost(59) with rain", x.lost(59), 0);
+        Due.due("told lost(60) with rain", x.lost(60), 2);
+        Due.due("worst(0) told in 60", x.worst(0), -4);
+        String in61 = "points 8; line 0 4 6 9 roof; line 4 1 6 9 roof; line 3 5 6 9 roof; line 5 1 6 9 roof;"
+            + " line 1 2 6 2; one 0 2 40; one 3 2 40;";
+        x = Due.told(in61);
+        Due.due("worst(0) in 61", x.worst(0), -4);
+        x = Due.told(in61 + " line 6 7 3 1; one 6 7 4; rain 40;");
+        Due.due("told lost(60) ahead of 61", x.lost(60), 0);
+        Due.due("worst(0) ahead of 61", x.worst(0), 6);
+        Due.due("worst(1) ahead of 61", x.worst(1), 1);
     }
 
     private static void runChangesNothing() {
@@ -174,6 +199,20 @@ final class RunTest {
         Due.due("one(0, 0)", x.one(0, 0), 0);
         Due.due("where(0, 0)", x.where(0, 0), 0);
         Due.due("count(0)", x.count(0), 1);
+        // nor does one stand in the way of another, though as many LINES are WHOLE then
+        Due.due("way ahead", x.way(0, 1, 10), 0);
+        Due.feed(x, "line 0 2 1 9; line 2 1 1 0; one 0 1 0;");
+        Due.due("text behind a run", x.text(), 3);
+        where(x, 0, 1, 0);
+        Due.feed(x, "line 2 1 1 9; one 2 1 0; one 0 1 0;");
+        Due.due("text behind another", x.text(), 3);
+        where(x, 0, 1, 100, 1);
+        where(x, 1, 1, 0, 0);
+        Due.feed(x, "line 0 1 1 9; one 2 1 0; one 0 1 0;");
+        Due.due("text behind a third", x.text(), 3);
+        Due.due("way behind a run", x.way(0, 1, 0), 1);
+        where(x, 0, 1, 2, 2);
+        where(x, 1, 1, 100, 1);
     }
 
     private static void arguments() {

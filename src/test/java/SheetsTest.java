@@ -2,6 +2,7 @@
 final class SheetsTest {
     static void run() {
         images();
+        fullImage();
         sheet();
         lay();
         lanes();
@@ -59,6 +60,41 @@ final class SheetsTest {
         x.hear(1, true);
         Due.due("back(0) over", x.back(0), 1);
         Due.due("count(1) over", x.count(1), 0);
+    }
+
+    /** As much as an IMAGE may have to keep. */
+    private static void fullImage() {
+        ChalkRoads x = Due.told("points 9; house 8;" + "line 0 1 1 1; ".repeat(11) + "line 7 8 9 9 roof;"
+            + "drawer 1; drawer 2; drawer 3; drawer 4; drawer 50; one 0 1 0; one 0 1 0; one 0 1 0; one 0 1 0; one 7 8 40;"
+            + "rain 40;");
+        for (int i = 0; i < 7; i++) {
+            x.hear(1 << i, true);
+        }
+        x.hear(1 << 11, false);
+        x.keep(0);
+        x.forget(0);
+        for (int i = 0; i < 8; i++) {
+            x.hear(4095, false);
+        }
+        x.draw(4, 11);
+        x.rub(11, 4);
+        x.build(8, false);
+        x.cloud(40, false);
+        x.keep(1);
+        Due.due("back(0) full", x.back(0), 12);
+        long[] line = {7, 8, 9, 9, 1};
+        for (int what = 0; what < 5; what++) {
+            Due.due("full line(11, " + what + ")", x.line(11, what), line[what]);
+        }
+        Due.due("full chalk(4)", x.chalk(4), 50);
+        Due.due("full one(4, 2)", x.one(4, 2), 40);
+        Due.due("full rule(4)", x.rule(4), 256);
+        Due.due("full rain(40)", x.rain(40), 1);
+        Due.due("full known(0)", x.known(0), 2048);
+        Due.due("full known(1)", x.known(1), 127);
+        Due.due("full back(1)", x.back(1), 12);
+        Due.due("full breaks(0)", x.breaks(0), 4095);
+        Due.due("full line(11, 3)", x.line(11, 3), 4);
     }
 
     private static void first(ChalkRoads x) {
@@ -120,6 +156,9 @@ final class SheetsTest {
         Due.due("read laid", x.read(0, 0, 0, 1), 1);
         Due.due("sheet anew", x.sheet(0, 0, 3), 1);
         Due.due("read anew", x.read(0, 0, 0, 1), -20);
+        for (int k = 0; k < 4; k++) {
+            allCellsAnew(k);
+        }
         // no CELL of one is one of another
         x.sheet(0, 2, 40);
         x.sheet(1, 2, 40);
@@ -127,6 +166,26 @@ final class SheetsTest {
         Due.due("sheet 1 untouched", x.read(1, 2, 0, 1), -20);
         x.lay(1, 0, 2);
         Due.due("sheet 0 untouched", x.read(0, 2, 38, 1), -20);
+    }
+
+    /** Each CELL of a new row is 0: LINES 0 are refused, and else 0 is that nobody came. */
+    private static void allCellsAnew(int k) {
+        for (int i = 0; i < 40; i++) {
+            ChalkRoads x = Due.told("line 0 1 1 1; line 0 1 1 1;");
+            x.sheet(k, 2, 40);
+            for (int c = 0; c < 40; c++) {
+                x.lay(k, c, 1);
+            }
+            x.sheet(k, 2, 40);
+            if (i % 2 == 0) {
+                x.lay(k, i + 1, 1);
+                Due.due("cell " + i + " of sheet " + k, x.read(k, 2, i, 1), -20);
+            } else {
+                x.lay(k, i - 1, 1);
+                Due.due("cells to " + i + " of sheet " + k, x.read(k, 2, i - 1, 1), 1);
+                Due.due("cell " + i + " of sheet " + k, x.known(0), 1);
+            }
+        }
     }
 
     /** What is laid is cut to the lane's lowest bits, with a sign. */
