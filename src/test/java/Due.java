@@ -42,8 +42,16 @@ final class Due {
         return x;
     }
 
-    /** What text() and fault() answer, on a new object. */
+    /** What text() and fault() answer, and that nothing behind the FAULT is met any more. */
     static void refused(String text, int place, int fault) {
+        refusedOnce(text, place, fault);
+        if (place < text.length()) {
+            refusedOnce(text + " ; house 1; 77 $ rain 0;", place, fault);
+            refusedOnce(text + " $ points 1;", place, fault);
+        }
+    }
+
+    private static void refusedOnce(String text, int place, int fault) {
         ChalkRoads x = new ChalkRoads();
         feed(x, text);
         due("text() of \"" + text + "\"", x.text(), -10 - place);
