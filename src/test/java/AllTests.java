@@ -8,6 +8,9 @@ public final class AllTests {
         DawnTest.run();
         BreaksTest.run();
         SheetsTest.run();
+        TokenTest.run();
+        BoundsTest.run();
+        UnchangedTest.run();
         ModelTest.run();
         System.out.println(Due.passed + " passed, " + Due.failed + " failed");
         if (Due.failed != 0) {

@@ -1,4 +1,5 @@
 import java.nio.charset.StandardCharsets;
+import java.util.List;
 
 /** Counts answers, prints each that is not the one that is due, and tells texts. */
 final class Due {
@@ -12,6 +13,21 @@ final class Due {
         }
         failed++;
         System.out.println(call + " answered " + got + ", due is " + want);
+    }
+
+    /** Answers told one by one: the first that is not the one that is due is printed. */
+    static void same(String name, List<String> want, List<String> got) {
+        if (want.equals(got)) {
+            passed++;
+            return;
+        }
+        failed++;
+        int i = 0;
+        while (i < want.size() && i < got.size() && want.get(i).equals(got.get(i))) {
+            i++;
+        }
+        System.out.println(name + ": " + (i < got.size() ? got.get(i) : "nothing more") + ", due is "
+            + (i < want.size() ? want.get(i) : "nothing more"));
     }
 
     /** Feeds a text and cuts off what fills the last eight bytes. */

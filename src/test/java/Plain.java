@@ -103,7 +103,7 @@ final class Plain {
         return before;
     }
 
-    private static final Pattern TOKEN = Pattern.compile(" *(?:([a-z]+)|([0-9]+)|(;)|$)");
+    private static final Pattern TOKEN = Pattern.compile(" *(?:([a-z]+)|([0-9]+)|(;)|\\z)");
 
     private static Token token(String text, int[] at) {
         Matcher m = TOKEN.matcher(text);
