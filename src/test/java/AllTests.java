@@ -9,6 +9,8 @@ public final class AllTests {
         BreaksTest.run();
         SheetsTest.run();
         TokenTest.run();
+        EdgeTest.run();
+        KeptEdgeTest.run();
         BoundsTest.run();
         UnchangedTest.run();
         ModelTest.run();
