@@ -21,6 +21,7 @@ final class EdgeTest {
         housesAtTheEnds();
         neededAll();
         partOfEach();
+        wayBehindAnotherText();
         startOfEachQuarter();
         yardsOfEachLength();
         rainInARun();
@@ -283,6 +284,31 @@ final class EdgeTest {
             x.rub(l, 1);
             Due.due("part(0) by " + l, x.part(0), (4 << l) - 1);
             Due.due("part(8) by " + l, x.part(8), l == 7 ? 511 : 256);
+        }
+    }
+
+    /** THE WAY and a RUN are by LINES as they are told, though as many others were WHOLE before. */
+    private static void wayBehindAnotherText() {
+        for (int goal = 0; goal < 9; goal++) {
+            int from = (goal + 1) % 9;
+            int over = (goal + 2) % 9;
+            String lines = "points 9;line " + from + " " + goal + " 5 9;line " + from + " " + over + " 9 9;";
+            String others = "points 9;line " + from + " " + over + " 1 9;line " + over + " " + goal + " 2 9;";
+            String one = "one " + from + " " + goal + " 0;";
+            ChalkRoads x = Due.told(lines + one);
+            Due.due("yards to " + goal, x.way(from, goal, 0), 5);
+            Due.due("comes to " + goal, x.comes(0), 6);
+            Due.feed(x, others + one);
+            Due.due("text() of others", x.text(), 4);
+            Due.due("yards to " + goal + " by others", x.way(from, goal, 0), 3);
+            Due.due("lines to " + goal + " by others", x.way(from, goal, 1), 2);
+            Due.feed(x, lines + one);
+            Due.due("text() as it was", x.text(), 4);
+            Due.due("comes to " + goal + " again", x.comes(0), 6);
+            Due.feed(x, others + one);
+            Due.due("text() of others again", x.text(), 4);
+            Due.due("comes to " + goal + " by others", x.comes(0), 5);
+            Due.due("where on the way to " + goal, x.where(0, 3), 101);
         }
     }
 

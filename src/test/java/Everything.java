@@ -126,9 +126,15 @@ final class Everything {
         heard();
     }
 
-    /** Two CELLS are told by what is HEARD of them, if the LINES they tell are there. */
+    /**
+     * Two CELLS are told by what is HEARD of them, if the LINES they tell are there; of nothing,
+     * and of another lane, all CELLS are alike.
+     */
     private void sheet(int k, int lane) {
-        for (int f = 0; f < 40; f++) {
+        x.forget(0);
+        x.read(k, lane, 0, 1);
+        int cells = x.torn() == 1 || x.torn() == 3 ? 1 : 40;
+        for (int f = 0; f < cells; f++) {
             x.forget(0);
             add("read(" + k + ", " + lane + ", " + f + ", 1)", x.read(k, lane, f, 1));
             add("torn()", x.torn());

@@ -526,6 +526,16 @@ final class TokenTest {
         Due.refused("drawer 1;".repeat(5) + blanks(349) + "drawer", 394, 5);
         Due.refused(blanks(392) + "house 5;", 400, 6);
         Due.refused("house 5;" + blanks(392), 400, 6);
+        // as many lines as THE TAPE has room for, and no LINE, no ONE
+        StringBuilder all = new StringBuilder("points9;" + "drawer0;".repeat(5));
+        for (int i = 0; i < 9; i++) {
+            all.append("house").append(i).append(';');
+        }
+        for (int q = 1; q <= 40; q++) {
+            all.append("rain").append(q).append(';');
+        }
+        Due.taken(all.toString(), 55);
+        Due.taken(all + blanks(400 - all.length()), 55);
         ChalkRoads x = new ChalkRoads();
         Due.due("text() of an empty tape", x.text(), 0);
         Due.due("fault() of an empty tape", x.fault(), 0);
