@@ -14,6 +14,9 @@ public final class AllTests {
         BoundsTest.run();
         UnchangedTest.run();
         ModelTest.run();
+        FaceTest.run();
+        LanguageTest.run();
+        ReadmeTest.run();
         System.out.println(Due.passed + " passed, " + Due.failed + " failed");
         if (Due.failed != 0) {
             System.exit(1);

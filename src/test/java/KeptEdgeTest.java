@@ -33,6 +33,7 @@ final class KeptEdgeTest {
         readNone();
         tornStays();
         counts();
+        lastOfManyCalls();
     }
 
     private static ChalkRoads lines(int n) {
@@ -556,6 +557,33 @@ final class KeptEdgeTest {
         for (int l = 0; l < 12; l++) {
             x.rub(l, 0);
             Due.due("count(0) without " + l, x.count(0), 11 - l);
+        }
+    }
+
+    /** "An object is used for at most 512 calls": the last ones answer as the first. */
+    private static void lastOfManyCalls() {
+        ChalkRoads x = new ChalkRoads();
+        for (int call = 0; call < 512; call += 8) {
+            Due.due("sheet, call " + call, x.sheet(3, 2, 40), 1);
+            Due.due("lay, call " + call, x.lay(3, 39, MIN), 1);
+            Due.due("keep, call " + call, x.keep(1), call == 0 ? 0 : 1);
+            Due.due("plan, call " + call, x.plan(0, 4, 9), 0);
+            Due.due("back, call " + call, x.back(1), 0);
+            Due.due("feed, call " + call, x.feed(0x686f75736520343bL), 8);
+            Due.due("end, call " + call, x.end(7), 8);
+            Due.due("end, call " + call, x.end(0), 7);
+        }
+        String net = "points 4;house 0;house 3;" + "line 0 3 9 1;".repeat(12) + "one 0 3 1;one 3 0 2;" + "drawer 20;".repeat(5);
+        x = Due.told(net);
+        for (int call = 64; call < 512; call += 8) {
+            Due.due("worst, call " + call, x.worst(0), 4);
+            Due.due("lost, call " + call, x.lost(60), 2);
+            Due.due("sure, call " + call, x.sure(1), 0);
+            Due.due("share, call " + call, x.share(255, 1), 15);
+            Due.due("share of line 7, call " + call, x.share(255, 17), 3);
+            Due.due("way, call " + call, x.way(3, 0, 10), 0);
+            Due.due("breaks, call " + call, x.breaks(0), 4096);
+            Due.due("ask, call " + call, x.ask(1), 2048);
         }
     }
 }
